@@ -153,6 +153,7 @@ public final class WallWalkers {
         if (!ground.has(a) || !ground.has(b)) {
             return BAD;
         }
+        ground.measure();
         return ground.farOf(a, b);
     }
 
@@ -226,6 +227,7 @@ public final class WallWalkers {
         if (crew.lacks(w)) {
             return tally.found(NOTHING);
         }
+        crew.refresh();
         return crew.tell(w, what);
     }
 
@@ -309,6 +311,7 @@ public final class WallWalkers {
         if (crew.lacks(w)) {
             return tally.found(NOTHING);
         }
+        crew.refresh();
         if (!crew.goes(w)) {
             return STATE;
         }
@@ -318,18 +321,18 @@ public final class WallWalkers {
     // ---- 3 what is seen
 
     public int joint() {
-        return crew.jointOf(crew.goers());
+        crew.refresh();
+        return crew.jointOf(crew.going);
     }
 
     public int seen(int time) {
         if (!isTime(time)) {
             return BAD;
         }
-        int goers = crew.goers();
-        if (crew.jointOf(goers) < 1) {
+        if (joint() < 1) {
             return SPENT;
         }
-        tally.asked = crew.seenAt(time, goers);
+        tally.asked = crew.seenAt(time);
         return Integer.bitCount(tally.asked);
     }
 
@@ -344,10 +347,10 @@ public final class WallWalkers {
     }
 
     public int worst() {
-        if (crew.jointOf(crew.goers()) < 1) {
+        if (joint() < 1) {
             return SPENT;
         }
-        watch.look(crew.goers(), ground.worthy(), 1);
+        watch.look(crew.going, ground.worthy(), 1);
         int post = watch.worstPost();
         if (post >= 0) {
             tally.asked = watch.loadOf(post);
@@ -380,10 +383,10 @@ public final class WallWalkers {
         if (!isNeed(n)) {
             return BAD;
         }
-        if (crew.jointOf(crew.goers()) < 1) {
+        if (joint() < 1) {
             return SPENT;
         }
-        watch.look(crew.goers(), ground.worthy(), n);
+        watch.look(crew.going, ground.worthy(), n);
         int post = watch.bestForThief();
         if (post >= 0) {
             tally.tellFraction(watch.lureOf(post), watch.joint);
@@ -392,10 +395,10 @@ public final class WallWalkers {
     }
 
     public int safe() {
-        if (crew.jointOf(crew.goers()) < 1) {
+        if (joint() < 1) {
             return SPENT;
         }
-        watch.look(crew.goers(), ground.worthy(), 1);
+        watch.look(crew.going, ground.worthy(), 1);
         return watch.longestIdle();
     }
 
@@ -403,7 +406,8 @@ public final class WallWalkers {
         if (k < 0 || k > LOSSES) {
             return BAD;
         }
-        int goers = crew.goers();
+        crew.refresh();
+        int goers = crew.going;
         int many = Math.min(k, Integer.bitCount(goers));
         if (isSpentWithAny(goers, many)) {
             return SPENT;
@@ -425,6 +429,7 @@ public final class WallWalkers {
         if (crew.lacks(a) || crew.lacks(b)) {
             return tally.found(NOTHING);
         }
+        crew.refresh();
         if (!crew.goes(a) || !crew.goes(b)) {
             return STATE;
         }
@@ -441,6 +446,7 @@ public final class WallWalkers {
         if (crew.lacks(a) || crew.lacks(b)) {
             return tally.found(NOTHING);
         }
+        crew.refresh();
         if (!crew.goes(a) || !crew.goes(b)) {
             return STATE;
         }
@@ -458,6 +464,7 @@ public final class WallWalkers {
         if (crew.lacks(a)) {
             return tally.found(NOTHING);
         }
+        crew.refresh();
         if (!crew.goes(a)) {
             return STATE;
         }
@@ -473,14 +480,16 @@ public final class WallWalkers {
         if (Integer.bitCount(ground.worthy()) > STOPS) {
             return STATE;
         }
-        return tour.lengthNow();
+        tour.refresh();
+        return tour.length;
     }
 
     public int roundAt(int i) {
         if (Integer.bitCount(ground.worthy()) > STOPS) {
             return STATE;
         }
-        return tour.stopNow(i);
+        tour.refresh();
+        return tour.stopAt(i);
     }
 
     public int parting() {
@@ -533,7 +542,9 @@ public final class WallWalkers {
             case 2: return ground.walls;
             case 3: return ground.broken;
             case 4: return crew.made;
-            case 5: return Integer.bitCount(crew.goers());
+            case 5:
+                crew.refresh();
+                return Integer.bitCount(crew.going);
             case 6: return shelf.present();
             default: return BAD;
         }
@@ -598,10 +609,11 @@ public final class WallWalkers {
         if (!ground.has(p)) {
             return BAD;
         }
-        if (crew.jointOf(crew.goers()) < 1) {
+        crew.refresh();
+        if (crew.jointOf(crew.going) < 1) {
             return SPENT;
         }
-        watch.look(crew.goers(), 1 << p, need);
+        watch.look(crew.going, 1 << p, need);
         return 0;
     }
 
@@ -879,15 +891,16 @@ public final class WallWalkers {
             return set;
         }
 
+        /** How far it is from post to post, as it was when it was last measured; NONE: no way leads there. */
         int farOf(int a, int b) {
-            if (farsOld) {
-                measure();
-            }
             int way = fars[a * POSTS + b];
             return way < APART ? way : NONE;
         }
 
-        private void measure() {
+        void measure() {
+            if (!farsOld) {
+                return;
+            }
             for (int a = 0; a < posts; a++) {
                 for (int b = 0; b < posts; b++) {
                     int length = lengthOf(a, b);
@@ -1124,8 +1137,9 @@ public final class WallWalkers {
     private static final class Crew {
         final Ground ground;
         int made = 0;
+        /** Those that go, as a set. */
+        int going = 0;
         private final Walker[] walkers = new Walker[WALKERS];
-        private int going = 0;
         private boolean old = true;
         private int groundVersion = 0;
 
@@ -1165,10 +1179,12 @@ public final class WallWalkers {
             return w;
         }
 
-        private void refresh() {
+        /** Works out anew what follows of walkers and ground, if either has changed. */
+        void refresh() {
             if (!old && groundVersion == ground.version) {
                 return;
             }
+            ground.measure();
             going = 0;
             for (int w = 0; w < made; w++) {
                 walkers[w].prepare(ground);
@@ -1178,13 +1194,8 @@ public final class WallWalkers {
             groundVersion = ground.version;
         }
 
-        int goers() {
-            refresh();
-            return going;
-        }
-
         boolean goes(int w) {
-            return (goers() >> w & 1) != 0;
+            return (going >> w & 1) != 0;
         }
 
         /** The least common multiple of the periods of a set that goes; SPENT: it is too great. */
@@ -1208,11 +1219,10 @@ public final class WallWalkers {
         }
 
         boolean isAnyPairSpent() {
-            int goers = goers();
             for (int a = 0; a < made; a++) {
                 for (int b = a + 1; b < made; b++) {
                     int pair = 1 << a | 1 << b;
-                    if ((goers & pair) == pair && jointOf(pair) < 1) {
+                    if ((going & pair) == pair && jointOf(pair) < 1) {
                         return true;
                     }
                 }
@@ -1228,10 +1238,10 @@ public final class WallWalkers {
             return posts;
         }
 
-        int seenAt(int time, int set) {
+        int seenAt(int time) {
             int posts = 0;
             for (int w = 0; w < made; w++) {
-                posts |= (set >> w & 1) != 0 ? walkers[w].seenAt(time) : 0;
+                posts |= goes(w) ? walkers[w].seenAt(time) : 0;
             }
             return posts;
         }
@@ -1411,7 +1421,7 @@ public final class WallWalkers {
 
         private void noteGap(int p, int from, int length) {
             unseen[p] += length;
-            openings[p] += Math.max(0, length - need + 1);
+            openings[p] += length < need ? 0 : length - need + 1;
             if (length > longest[p] || (length == longest[p] && from < longestFrom[p])) {
                 longest[p] = length;
                 longestFrom[p] = from;
@@ -1498,7 +1508,7 @@ public final class WallWalkers {
     /** A walker on its way: the leg on which it is, with times as they are, not from its start on. */
     private static final class Stride {
         private static final long FOREVER = 1L << 40;
-        private Walker walker = null;
+        private Walker walker;
         private int leg = 0;
         private long roundFrom = 0;
         int here = 0;
@@ -1507,6 +1517,10 @@ public final class WallWalkers {
         long comes = 0;
         long leaves = 0;
         long ends = 0;
+
+        Stride(Walker who) {
+            walker = who;
+        }
 
         void set(Walker who, long grains) {
             walker = who;
@@ -1539,7 +1553,7 @@ public final class WallWalkers {
         }
 
         void goOn() {
-            if (walker == null || walker.kind == GUARD) {
+            if (walker.kind == GUARD) {
                 return;
             }
             leg = walker.legBehind(leg);
@@ -1558,12 +1572,14 @@ public final class WallWalkers {
         /** Legs of either take 10 parts at least. */
         private static final int MOST_LEGS = 2 * (JOINT / 10) + 100;
         private final Crew crew;
-        private final Stride one = new Stride();
-        private final Stride other = new Stride();
+        private final Stride one;
+        private final Stride other;
         private final long[] words = new long[WALKERS];
 
         Meetings(Crew crew) {
             this.crew = crew;
+            one = new Stride(crew.get(0));
+            other = new Stride(crew.get(0));
         }
 
         /** The first time from one on, both in grains, at which two that go are at one place. */
@@ -1585,18 +1601,14 @@ public final class WallWalkers {
                 if (ends >= Stride.FOREVER) {
                     return NEVER;
                 }
-                goPast(ends);
+                if (one.ends <= ends) {
+                    one.goOn();
+                }
+                if (other.ends <= ends) {
+                    other.goOn();
+                }
             }
             return NEVER;
-        }
-
-        private void goPast(long time) {
-            if (one.ends <= time) {
-                one.goOn();
-            }
-            if (other.ends <= time) {
-                other.goOn();
-            }
         }
 
         /** The first time at which both are at one place while neither comes to its next post. */
@@ -1643,7 +1655,7 @@ public final class WallWalkers {
                 words[w] = NEVER;
             }
             words[a] = from;
-            int waiting = crew.goers();
+            int waiting = crew.going;
             int having = 0;
             for (int step = 0; step < WALKERS && (having & askedFor) == 0; step++) {
                 int next = earliest(waiting);
@@ -1688,34 +1700,30 @@ public final class WallWalkers {
     private static final class Tour {
         private static final int OTHERS = STOPS - 1;
         private static final int UNKNOWN = 1000000;
+        int length = 0;
         private final Ground ground;
         private final int[] stops = new int[STOPS];
         private final int[] order = new int[STOPS];
         /** The least way from one of the other stops over those not in a set and back to the first stop. */
         private final int[] homeward = new int[(1 << OTHERS) * OTHERS];
         private int many = 0;
-        private int length = 0;
         private int groundVersion = -1;
 
         Tour(Ground ground) {
             this.ground = ground;
         }
 
-        int lengthNow() {
-            refresh();
-            return length;
-        }
-
-        int stopNow(int i) {
-            refresh();
+        int stopAt(int i) {
             return i < 0 || i >= many || length == NONE ? NONE : order[i];
         }
 
-        private void refresh() {
+        /** Works out the round anew, if the ground has changed. */
+        void refresh() {
             if (groundVersion == ground.version) {
                 return;
             }
             groundVersion = ground.version;
+            ground.measure();
             gatherStops();
             if (many < 2) {
                 length = 0;
@@ -1792,13 +1800,15 @@ public final class WallWalkers {
         }
 
         private int nextStop(int set, int at) {
-            int best = bestBeyond(set, at);
-            for (int j = 0; j < many - 2; j++) {
-                if ((set >> j & 1) == 0 && wayOver(set, at, j) == best) {
-                    return j;
+            int best = UNKNOWN;
+            int next = 0;
+            for (int j = 0; j < many - 1; j++) {
+                if ((set >> j & 1) == 0 && wayOver(set, at, j) < best) {
+                    best = wayOver(set, at, j);
+                    next = j;
                 }
             }
-            return many - 2;
+            return next;
         }
     }
 
