@@ -823,6 +823,20 @@ public final class PromiseTest {
         due(0, x.idleFrom(0));
         plan(0, 118, 0, 1);
         due(119, x.idleFrom(0));
+        // rests that go on over time 0, or end just then
+        rested(0, 125, new int[] {0, 1}, 10);
+        due(6, x.idleFrom(0));
+        rested(0, 120, new int[] {0, 1}, 10);
+        due(1, x.idleFrom(0));
+        rested(0, 119, new int[] {0, 1}, 10);
+        due(0, x.idleFrom(0));
+        // one rests at post 0 from 170 to 50, over time 0, the other one comes there at 20 for no longer
+        rested(0, 170, new int[] {0, 1}, 100);
+        x.walker(0, 0, 0);
+        rested(1, 20, new int[] {0, 1}, 0, 100);
+        due(119, x.idle(0));
+        due(51, x.idleFrom(0));
+        x.lose(1, true);
         x.walker(3, 0, 0);
         due(NONE, x.idleFrom(0));
         refused(BAD, () -> x.idleFrom(3));
