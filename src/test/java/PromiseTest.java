@@ -1,14 +1,5 @@
-import java.util.List;
-import java.util.function.LongSupplier;
-
 /** For each promise of the document: ordinary inputs, the edges that it names, and wrong inputs. */
-public final class PromiseTest {
-    private static final int BAD = -1, FULL = -2, STATE = -4, SPENT = -6, NONE = -9;
-    private static final int NOTHING = 1, BEYOND = 2, UNLIKE = 3, NOUGHT = 4, SIZE = 5;
-    private static int promise;
-    private static int wrong;
-    private static WallWalkers x;
-
+public final class PromiseTest extends Checks {
     public static void main(String[] args) {
         Runnable[] promises = {
             PromiseTest::newObject, PromiseTest::row, PromiseTest::lay, PromiseTest::tear, PromiseTest::copy,
@@ -22,116 +13,14 @@ public final class PromiseTest {
             PromiseTest::partOf, PromiseTest::fuel, PromiseTest::asked, PromiseTest::upper, PromiseTest::lower,
             PromiseTest::count, PromiseTest::finding, PromiseTest::findings, PromiseTest::digest,
         };
-        for (promise = 1; promise <= promises.length; promise++) {
-            x = new WallWalkers();
-            promises[promise - 1].run();
+        for (int i = 0; i < promises.length; i++) {
+            promise(i + 1);
+            promises[i].run();
         }
-        System.out.println(wrong == 0 ? promises.length + " promises hold" : wrong + " answers are not as due");
-        if (wrong != 0 || promises.length != 49) System.exit(1);
+        end(promises.length + " promises");
     }
 
-    // ---- helpers
-
-    private static void due(long want, long got) {
-        if (got != want) {
-            wrong++;
-            System.out.println("promise " + promise + ", line " + line() + ": " + got + ", due is " + want);
-        }
-    }
-
-    /** The line of the promise's own method from which a helper was called. */
-    private static int line() {
-        for (StackTraceElement e : new Throwable().getStackTrace()) {
-            if (!List.of("line", "due", "refused", "found", "fraction", "unchanged").contains(e.getMethodName())) {
-                return e.getLineNumber();
-            }
-        }
-        return 0;
-    }
-
-    /** All that a refused call must leave as it was. */
-    private static long[] state() {
-        long[] s = new long[20];
-        s[0] = x.digest();
-        s[1] = x.asked();
-        s[2] = x.upper();
-        s[3] = x.lower();
-        for (int w = 0; w < 8; w++) {
-            s[4 + w] = x.partOf(w, false);
-            s[12 + w] = x.partOf(w, true);
-        }
-        return s;
-    }
-
-    /** A call that must be refused with a number that is no FINDING, and change nothing. */
-    private static void refused(int want, LongSupplier call) {
-        long[] before = state();
-        int latest = x.finding();
-        int[] many = new int[6];
-        for (int f = 1; f <= 5; f++) many[f] = x.findings(f);
-        due(want, call.getAsLong());
-        due(latest, x.finding());
-        for (int f = 1; f <= 5; f++) due(many[f], x.findings(f));
-        unchanged(before);
-    }
-
-    /** A call that must be refused with a FINDING, and change nothing but finding() and findings(). */
-    private static void found(int finding, LongSupplier call) {
-        long[] before = state();
-        int[] many = new int[6];
-        for (int f = 1; f <= 5; f++) many[f] = x.findings(f);
-        due(-3, call.getAsLong());
-        due(finding, x.finding());
-        for (int f = 1; f <= 5; f++) due(many[f] + (f == finding ? 1 : 0), x.findings(f));
-        unchanged(before);
-    }
-
-    private static void unchanged(long[] before) {
-        long[] after = state();
-        for (int i = 0; i < before.length; i++) {
-            if (before[i] != after[i]) {
-                wrong++;
-                System.out.println("promise " + promise + ", line " + line() + ": a refused call changed state " + i);
-            }
-        }
-    }
-
-    private static void fraction(long top, long bottom) {
-        due(top, x.upper());
-        due(bottom, x.lower());
-    }
-
-    private static void fresh() {
-        x = new WallWalkers();
-    }
-
-    private static void put(int r, int... bytes) {
-        x.row(r, bytes.length);
-        for (int i = 0; i < bytes.length; i++) x.lay(r, i, bytes[i]);
-    }
-
-    private static void fence(int... lengths) {
-        put(7, lengths);
-        x.fence(7, false);
-    }
-
-    private static void ring(int... lengths) {
-        put(7, lengths);
-        x.fence(7, true);
-    }
-
-    private static void plan(int w, int start, int... posts) {
-        put(6, posts);
-        x.plan(w, 6, NONE, start);
-    }
-
-    private static void rested(int w, int start, int[] posts, int... rests) {
-        put(6, posts);
-        put(5, rests);
-        x.plan(w, 6, 5, start);
-    }
-
-    /** A fence of two posts with a walker to and fro whose period is too long for any joint. */
+    /** A fence with a walker more to and fro whose period is too long for any joint. */
     private static void spent() {
         fence(30, 30, 30, 30, 30);
         x.walker(0, 0, 0);
