@@ -7,6 +7,7 @@ public final class MeetingsEdgesTest extends Checks {
         meetRefusals();
         meetSpent();
         word();
+        wordEarliest();
         wordNone();
         wordRefusals();
         wordSpent();
@@ -139,6 +140,18 @@ public final class MeetingsEdgesTest extends Checks {
         x.walker(3, 4, 0);
         met(0, 1, 7200, 7200, 1);
         met(0, 1, 7201, 21600, 1);
+        // once in 14400 parts, in which the other one goes 1440 ways of 10 parts: just before the end, or not at all
+        fresh();
+        fence(1, 30, 30, 30, 30);
+        x.walker(1, 6, 0);
+        x.walker(0, 0, 0);
+        plan(0, 0, 0, 1);
+        plan(1, 50, 1, 2, 3, 4, 5, 4, 3, 2);
+        met(0, 1, 50, 50, 1);
+        met(0, 1, 51, 14450, 1);
+        plan(1, 51, 1, 2, 3, 4, 5, 4, 3, 2);
+        due(NONE, x.meet(0, 1, 0));
+        due(NONE, x.meet(1, 0, 14399));
     }
 
     /** Two that go, one that has no plan, one that was sent home. */
@@ -255,6 +268,39 @@ public final class MeetingsEdgesTest extends Checks {
         fraction(10, 1);
         due(1, x.word(0, 0, 2));
         fraction(0, 1);
+    }
+
+    private static void wordEarliest() {
+        promise(36);
+        says("A WORD that a WALKER has from a time (0 .. 14399) on: when another one has it, told by upper(), lower(): 1;");
+        fence(1, 1);
+        x.walker(1, 6, 0);
+        x.walker(1, 6, 0);
+        x.walker(3, 1, 0);
+        x.walker(3, 2, 0);
+        // 0 is at post 1 at 5 and at post 2 at 15, 1 is at post 1 at 10 and at post 2 at 20: the earlier one brings it, whoever it is
+        plan(0, 5, 1, 2);
+        plan(1, 10, 1, 2);
+        due(1, x.word(2, 0, 3));
+        fraction(15, 1);
+        plan(0, 10, 1, 2);
+        plan(1, 5, 1, 2);
+        due(1, x.word(2, 0, 3));
+        fraction(15, 1);
+        // who has it from one is not without it because another one does not meet him, or meets him later
+        plan(0, 5, 1, 0);
+        plan(1, 10, 1, 2);
+        due(NONE, x.meet(0, 1, 0));
+        due(1, x.word(2, 0, 1));
+        fraction(10, 1);
+        due(1, x.word(2, 6, 0));
+        fraction(25, 1);
+        rested(1, 10, new int[] {1, 2}, 3);
+        // 0 is there at 5, 25, .. 105, 1 from 10 to 13, .. 102 to 105
+        due(1, x.meet(0, 1, 0));
+        fraction(105, 1);
+        due(1, x.word(2, 0, 1));
+        fraction(10, 1);
     }
 
     private static void wordNone() {

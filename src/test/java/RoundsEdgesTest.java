@@ -400,7 +400,41 @@ public final class RoundsEdgesTest extends Checks {
         part(0, NONE, NONE);
         part(1, 0, 1);
         part(2, 2, 2);
+        // sixteen posts, five of speeds 2 to 6: within 80 parts they can have 2, 3, 3, 4 and 5 posts, one more than there are
+        fresh();
+        fence(all(15, 1));
+        for (int w = 0; w < 5; w++) x.walker(1, 2 + w, 0);
+        due(80, x.parting());
+        int[] firsts = {0, 2, 5, 8, 12, 16};
+        for (int w = 0; w < 5; w++) part(w, firsts[w], firsts[w + 1] - 1);
+        due(80, x.parting());
+        // the same the other way round
+        for (int w = 0; w < 3; w++) x.home(w);
+        for (int w = 5; w < 8; w++) x.walker(1, 9 - w, 0);
+        due(80, x.parting());
+        int[] back = {0, 4, 9, 12, 15, 16};
+        for (int w = 3; w < 8; w++) part(w, back[w - 3], back[w - 2] - 1);
+        // a broken wall of one unit is left out as any other one is: behind a unit, and where the next but one could go on
+        fresh();
+        fence(1, 1, 1);
+        x.walker(0, 0, 0);
+        x.walker(0, 0, 0);
+        x.breaks(1, 2, true);
+        due(120, x.parting());
+        part(0, 0, 1);
+        part(1, 2, 3);
+        fence(5, 1, 1);
+        x.walker(1, 6, 0);
+        x.breaks(1, 2, true);
+        x.breaks(2, 3, true);
+        due(100, x.parting());
+        part(2, 0, 1);
+        part(0, 2, 2);
+        part(1, 3, 3);
         // a broken wall parts them where else one would go on
+        fresh();
+        fence(1, 1);
+        for (int w = 0; w < 3; w++) x.walker(3 - 3 * Math.min(w, 1), 0, 0);
         x.breaks(0, 1, true);
         due(120, x.parting());
         part(1, 0, 0);

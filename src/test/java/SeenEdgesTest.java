@@ -14,6 +14,7 @@ public final class SeenEdgesTest extends Checks {
         peril();
         perilNone();
         perilSpent();
+        full();
         end("promises 25 to 34");
     }
 
@@ -154,6 +155,22 @@ public final class SeenEdgesTest extends Checks {
         due(14399, x.idle(0));
         due(7199, x.idle(2));
         due(10799, x.idle(1));
+        // a guard of the least number, at a post that another one comes to as well
+        fresh();
+        fence(1);
+        x.walker(3, 0, 0);
+        shuttle(1, 3, 0);
+        due(0, x.idle(0));
+        due(19, x.idle(1));
+        // one rests at post 0 from 30 to 50, over the end of 40, and the other one comes and goes there within that time
+        fresh();
+        fence(1);
+        shuttle(0, 30, 20);
+        x.walker(1, 6, 0);
+        rested(1, 5, new int[] {0, 1}, 0, 20);
+        due(19, x.idle(0));
+        rested(1, 20, new int[] {0, 1}, 0, 20);
+        due(9, x.idle(0));
         says("BAD; SPENT.");
         brim(0);
         for (int bad : new int[] {-1, 5, 16, MOST, LEAST}) refused(BAD, () -> x.idle(bad));
@@ -194,6 +211,19 @@ public final class SeenEdgesTest extends Checks {
         due(39, x.idleFrom(0));
         relay(22);
         due(21, x.idleFrom(0));
+        // a rest that ends with time 0, or goes on over it, though another one comes in that time
+        fresh();
+        fence(1);
+        x.walker(1, 6, 0);
+        x.walker(1, 6, 0);
+        int[] ends = {39, 0, 1, 10};
+        int[] behind = {0, 1, 2, 11};
+        for (int i = 0; i < ends.length; i++) {
+            shuttle(0, ends[i] + 20, 20);
+            rested(1, ends[i] + 35, new int[] {0, 1}, 0, 20);
+            due(19, x.idle(0));
+            due(behind[i], x.idleFrom(0));
+        }
         brimAlone(0);
         due(1, x.idleFrom(0));
         due(7201, x.idleFrom(4));
@@ -602,5 +632,50 @@ public final class SeenEdgesTest extends Checks {
         refused(SPENT, () -> x.peril(1));
         due(0, x.peril(2));
         due(3, x.asked());
+    }
+
+    /** Eight who come to a post each 10 parts, as often as anyone can, in a joint of 14300. */
+    private static void full() {
+        promise(27);
+        says("IDLE of a POST; NONE: it is never SEEN.");
+        x.net(3);
+        x.wall(0, 1, 1);
+        x.wall(1, 2, 1);
+        x.wall(2, 0, 1);
+        // once round over 2, 11, 13 and 10 posts: posts 0 and 1 by turns, and post 2 at the end where their number is odd
+        int[] sizes = {2, 11, 13, 10, 2, 2, 2, 2};
+        int[][] plans = new int[8][];
+        for (int w = 0; w < 8; w++) {
+            plans[w] = new int[sizes[w]];
+            for (int i = 0; i < sizes[w]; i++) plans[w][i] = i % 2 == 0 && i == sizes[w] - 1 ? 2 : i % 2;
+        }
+        boolean[][] seen = new boolean[3][14300];
+        for (int w = 0; w < 8; w++) {
+            x.walker(1, 6, 0);
+            plan(w, 10 * w, plans[w]);
+            for (int time = 0; time < 14300; time += 10) {
+                seen[plans[w][Math.floorMod(time / 10 - w, plans[w].length)]][time] = true;
+            }
+        }
+        due(14300, x.joint());
+        for (int p = 0; p < 3; p++) {
+            int longest = 0;
+            int from = 0;
+            int row = 0;
+            int many = 0;
+            // twice round, so that a row that goes over the end is seen whole
+            for (int time = 0; time < 28600; time++) {
+                row = seen[p][time % 14300] ? 0 : row + 1;
+                many += time < 14300 && seen[p][time] ? 1 : 0;
+                if (row > longest) {
+                    longest = row;
+                    from = (time - row + 1) % 14300;
+                }
+            }
+            due(longest, x.idle(p));
+            due(from, x.idleFrom(p));
+            due(1, x.share(p));
+            due(many * x.lower(), 14300 * x.upper());
+        }
     }
 }
