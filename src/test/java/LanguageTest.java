@@ -15,6 +15,7 @@ import java.util.regex.Pattern;
 /** What LANGUAGE.md asks of the source, as far as a test can see it; and that no call throws or makes objects. */
 public final class LanguageTest {
     private static final Path SOURCE = Path.of("src/main/java/WallWalkers.java");
+    private static final Path DOCUMENT = Path.of("../shared/DOC.md");
     private static final String FACE = "row(II)int lay(III)int tear(I)int copy(IIIII)int mean(I)int fence(IZ)int net(I)int "
         + "wall(III)int breaks(IIZ)int far(II)int worth(II)int base(IZ)int walker(III)int home(I)int view(II)int "
         + "lose(IZ)int told(II)int mark(II)int plan(IIII)int unplan(I)int planned(IIZ)int fit(I)int where(III)int "
@@ -25,6 +26,7 @@ public final class LanguageTest {
 
     public static void main(String[] args) throws Exception {
         face();
+        documentsFace();
         members();
         words();
         methodLengths();
@@ -63,6 +65,31 @@ public final class LanguageTest {
         holds(constants.toString().equals("[BAD, FINDING, FULL, NONE, SPENT, STATE]"), "rule 1: the constants are " + constants);
         holds(WallWalkers.class.getDeclaredConstructors().length == 1, "rule 1: more than one constructor");
         holds(Modifier.isFinal(WallWalkers.class.getModifiers()), "rule 1: the class is not final");
+    }
+
+    /** The face that the document has, line by line, with the values of the constants. */
+    private static void documentsFace() throws Exception {
+        String text = Files.exists(DOCUMENT) ? Files.readString(DOCUMENT) : "";
+        Matcher block = Pattern.compile("(?s)## The public face\\s+```java\n(.*?)```").matcher(text);
+        if (!block.find()) {
+            holds(text.isEmpty(), "the document has no face");
+            return;
+        }
+        TreeSet<String> asked = new TreeSet<>();
+        Matcher call = Pattern.compile("public (int|long) (\\w+)\\((.*)\\);").matcher(block.group(1));
+        while (call.find()) {
+            String types = call.group(3).replaceAll("boolean \\w+(, )?", "Z").replaceAll("int \\w+(, )?", "I");
+            asked.add(call.group(2) + "(" + types + ")" + call.group(1));
+        }
+        holds(asked.equals(new TreeSet<>(List.of(FACE.split(" ")))), "the document's face is " + asked);
+        Matcher constant = Pattern.compile("([A-Z]+) = (-?\\d+)").matcher(block.group(1));
+        int constants = 0;
+        while (constant.find()) {
+            constants++;
+            int value = WallWalkers.class.getField(constant.group(1)).getInt(null);
+            holds(value == Integer.parseInt(constant.group(2)), constant.group(1) + " is " + value);
+        }
+        holds(constants == 6, "the document's face has " + constants + " constants");
     }
 
     private static void members() {

@@ -3,6 +3,7 @@ public final class MeetingsEdgesTest extends Checks {
     public static void main(String[] args) {
         meetAtPosts();
         meetOnWalls();
+        meetLate();
         meetNone();
         meetRefusals();
         meetSpent();
@@ -109,6 +110,45 @@ public final class MeetingsEdgesTest extends Checks {
 
     private static int common(int a, int b) {
         return b == 0 ? a : common(b, a % b);
+    }
+
+    /** A post, and then so many walls of 10 parts between two others, with one rest at the first of these. */
+    private static void flutter(int w, int start, int walls, int a, int rest) {
+        int[] posts = new int[walls];
+        for (int i = 1; i < walls; i++) posts[i] = i % 2 == 1 ? a : a + 1;
+        rested(w, start, posts, 0, rest);
+    }
+
+    /** Two whose periods are 225 and 192, with walls as short as can be: within 14400 parts they may meet once at post 0. */
+    private static void meetLate() {
+        promise(35);
+        says("MEETING of two WALKERS, told by upper(), lower(): 1;");
+        x.net(5);
+        x.wall(0, 1, 1);
+        x.wall(1, 2, 1);
+        x.wall(2, 0, 1);
+        x.wall(0, 3, 1);
+        x.wall(3, 4, 1);
+        x.wall(4, 0, 1);
+        x.walker(1, 6, 0);
+        x.walker(1, 6, 0);
+        flutter(0, 0, 22, 1, 5);
+        flutter(1, 0, 19, 3, 2);
+        due(225, x.told(0, 6));
+        due(192, x.told(1, 6));
+        due(14400, x.joint());
+        met(0, 1, 0, 0, 1);
+        met(0, 1, 1, 14400, 1);
+        met(0, 1, 14399, 14400, 1);
+        // the last round in which they can: 63 times 225 is 73 times 192 and 159 more
+        flutter(1, 159, 19, 3, 2);
+        met(0, 1, 0, 14175, 1);
+        met(0, 1, 14175, 14175, 1);
+        met(0, 1, 14176, 28575, 1);
+        // 3 divides both periods, but not what one starts later: their times at post 0 are never alike
+        flutter(1, 160, 19, 3, 2);
+        due(NONE, x.meet(0, 1, 0));
+        due(NONE, x.meet(1, 0, 14399));
     }
 
     private static void meetNone() {
@@ -301,6 +341,21 @@ public final class MeetingsEdgesTest extends Checks {
         fraction(105, 1);
         due(1, x.word(2, 0, 1));
         fraction(10, 1);
+        // by two others, of greater numbers, who have it before: at 0 and 10, then at post 2 at 20
+        fresh();
+        fence(1, 1);
+        x.walker(3, 0, 0);
+        x.walker(3, 2, 0);
+        x.walker(1, 6, 0);
+        x.walker(1, 6, 0);
+        plan(2, 0, 0, 1);
+        plan(3, 10, 1, 2);
+        due(1, x.word(0, 0, 1));
+        fraction(20, 1);
+        due(1, x.word(0, 1, 1));
+        fraction(40, 1);
+        due(1, x.word(1, 0, 0));
+        fraction(20, 1);
     }
 
     private static void wordNone() {

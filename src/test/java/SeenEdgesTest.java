@@ -171,6 +171,26 @@ public final class SeenEdgesTest extends Checks {
         due(19, x.idle(0));
         rested(1, 20, new int[] {0, 1}, 0, 20);
         due(9, x.idle(0));
+        // what was seen before a view, a plan or a wall was another one is not seen any more
+        fresh();
+        fence(1, 1);
+        shuttle(0, 0, 0);
+        x.view(0, 1);
+        due(19, x.idle(2));
+        x.view(0, 0);
+        due(NONE, x.idle(2));
+        due(19, x.idle(0));
+        plan(0, 0, 1, 2);
+        due(NONE, x.idle(0));
+        due(19, x.idle(2));
+        x.view(0, 1);
+        due(19, x.idle(0));
+        x.breaks(0, 1, true);
+        due(NONE, x.idle(0));
+        x.walker(3, 0, 0);
+        due(0, x.idle(0));
+        x.lose(1, true);
+        due(NONE, x.idle(0));
         says("BAD; SPENT.");
         brim(0);
         for (int bad : new int[] {-1, 5, 16, MOST, LEAST}) refused(BAD, () -> x.idle(bad));
